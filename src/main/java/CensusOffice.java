@@ -41,6 +41,9 @@ public final class CensusOffice {
     private static final int MOST_RELEASES = 12;
     private static final int MOST_LOOKS = 500;
 
+    private static final int BITS = 32;
+    private static final int ENDLESS = 2147483647;
+
     private static final int ASK = 0;
     private static final int LET = 1;
     private static final int MUST = 2;
@@ -502,9 +505,7 @@ public final class CensusOffice {
     }
 
     public int looked(int k, int what) throws IndexOutOfBoundsException, IllegalArgumentException {
-        if (!looks.has(k)) {
-            throw new IndexOutOfBoundsException("no such look");
-        }
+        needIndex(k, looks.size());
         if (what < 0 || what >= LOOK_WIDTH) {
             throw new IllegalArgumentException("what is 0 .. 5");
         }
@@ -554,16 +555,18 @@ public final class CensusOffice {
         return minute / MINUTES_A_DAY;
     }
 
-    private void needUnit(int unit) {
-        if (!register.units.has(unit)) {
-            throw new IndexOutOfBoundsException("no such unit");
+    private static void needIndex(int k, int count) {
+        if (k < 0 || k >= count) {
+            throw new IndexOutOfBoundsException("there is no such thing of those that the call names");
         }
     }
 
+    private void needUnit(int unit) {
+        needIndex(unit, register.units.size());
+    }
+
     private void needField(int field) {
-        if (field < 0 || field >= FIELDS) {
-            throw new IndexOutOfBoundsException("no such field");
-        }
+        needIndex(field, FIELDS);
     }
 
     private void needUnmerged(int unit) {
@@ -573,74 +576,56 @@ public final class CensusOffice {
     }
 
     private void needStatement(Form form, int statement) {
-        if (!form.has(statement)) {
-            throw new IndexOutOfBoundsException("no such statement");
-        }
+        needIndex(statement, form.count);
     }
 
     private void needStatementOrNone(Form form, int statement) {
-        if (statement != NONE && !form.has(statement)) {
-            throw new IndexOutOfBoundsException("no such statement");
+        if (statement != NONE) {
+            needIndex(statement, form.count);
         }
     }
 
     private void needPerson(int person) {
-        if (!persons.has(person)) {
-            throw new IndexOutOfBoundsException("no such person");
-        }
+        needIndex(person, persons.size());
     }
 
     private void needCell(Table table, int r, int c) {
-        if (r < 0 || r >= table.rows || c < 0 || c >= table.columns) {
-            throw new IndexOutOfBoundsException("no such cell");
-        }
+        needIndex(r, table.rows);
+        needIndex(c, table.columns);
     }
 
     private void needSumOrCell(Table table, int r, int c) {
-        if (r < 0 || r > table.rows || c < 0 || c > table.columns) {
-            throw new IndexOutOfBoundsException("no such cell or sum");
-        }
+        needIndex(r, table.rows + 1);
+        needIndex(c, table.columns + 1);
     }
 
     private Form formAt(int form) {
-        if (form < 0 || form >= forms.size()) {
-            throw new IndexOutOfBoundsException("no such form");
-        }
+        needIndex(form, forms.size());
         return forms.get(form);
     }
 
     private Session sessionAt(int session) {
-        if (session < 0 || session >= sessions.size()) {
-            throw new IndexOutOfBoundsException("no such session");
-        }
+        needIndex(session, sessions.size());
         return sessions.get(session);
     }
 
     private Rec recordAt(int record) {
-        if (record < 0 || record >= records.size()) {
-            throw new IndexOutOfBoundsException("no such record");
-        }
+        needIndex(record, records.size());
         return records.get(record);
     }
 
     private Sample sampleAt(int sample) {
-        if (sample < 0 || sample >= samples.size()) {
-            throw new IndexOutOfBoundsException("no such sample");
-        }
+        needIndex(sample, samples.size());
         return samples.get(sample);
     }
 
     private Table tableAt(int table) {
-        if (table < 0 || table >= tables.size()) {
-            throw new IndexOutOfBoundsException("no such table");
-        }
+        needIndex(table, tables.size());
         return tables.get(table);
     }
 
     private Release releaseAt(int release) {
-        if (release < 0 || release >= releases.size()) {
-            throw new IndexOutOfBoundsException("no such release");
-        }
+        needIndex(release, releases.size());
         return releases.get(release);
     }
 
@@ -649,7 +634,7 @@ public final class CensusOffice {
     }
 
     private static boolean hasBit(int bits, int k) {
-        return k >= 0 && k < Integer.SIZE && (bits >>> k & 1) != 0;
+        return k >= 0 && k < BITS && (bits >>> k & 1) != 0;
     }
 
     /** Rows of numbers, all of one width, up to a limit; what is no place of theirs is ABSENT. */
@@ -1209,6 +1194,10 @@ public final class CensusOffice {
             return has(s) && sorts[s] <= LET;
         }
 
+        int costOf(int s) {
+            return has(s) ? costs[s] : 0;
+        }
+
         int span(int s) {
             return has(s) ? highs[s] - lows[s] + 1 : 0;
         }
@@ -1503,7 +1492,7 @@ public final class CensusOffice {
 
         private final int[] trial = new int[MOST_STATEMENTS];
         private int bestSet = NONE;
-        private int bestCost = Integer.MAX_VALUE;
+        private int bestCost = ENDLESS;
 
         int leastSet(Rec record) {
             int free = 0;
@@ -1513,19 +1502,20 @@ public final class CensusOffice {
                 }
             }
             bestSet = NONE;
-            bestCost = Integer.MAX_VALUE;
-            choose(record, free, 0, 0, MOST_STATEMENTS - 1);
+            bestCost = ENDLESS;
+            if (fits(record, free)) {
+                choose(record, 0, free, 0);
+            }
             return bestSet;
         }
 
         /**
-         * Statements from s down are not yet chosen. The highest come first and are left out first,
-         * so of sets with the same cost the one with the least bits is met first. A set that does
-         * not fit with all that may still come does not fit with less.
+         * The set fits with all the open asks, of which there is one less each time. The highest come
+         * first and are left out first, so of sets with the same cost the one with the least bits is
+         * met first. What does not fit with all that may still come does not fit with less.
          */
-        private void choose(Rec record, int free, int set, int cost, int s) {
-            int open = free & (1 << s + 1) - 1;
-            if (cost >= bestCost || !fits(record, set | open)) {
+        private void choose(Rec record, int set, int open, int cost) {
+            if (cost >= bestCost) {
                 return;
             }
             if (open == 0) {
@@ -1533,9 +1523,13 @@ public final class CensusOffice {
                 bestCost = cost;
                 return;
             }
-            int highest = Integer.SIZE - 1 - Integer.numberOfLeadingZeros(open);
-            choose(record, free, set, cost, highest - 1);
-            choose(record, free, set | 1 << highest, cost + record.form.costs[highest], highest - 1);
+            int highest = Integer.highestOneBit(open);
+            int rest = open & ~highest;
+            if (fits(record, set | rest)) {
+                choose(record, set, rest, cost);
+            }
+            int more = record.form.costOf(Integer.numberOfTrailingZeros(highest));
+            choose(record, set | highest, rest, cost + more);
         }
 
         /**
@@ -1579,7 +1573,7 @@ public final class CensusOffice {
 
         int donorOf(ArrayList<Rec> records, Rec record, int set) {
             int best = NONE;
-            int bestDistance = Integer.MAX_VALUE;
+            int bestDistance = ENDLESS;
             for (int k = 0; k < records.size(); k++) {
                 Rec other = records.get(k);
                 if (other != record && other.form == record.form && canGive(other, record, set)) {
@@ -1836,21 +1830,24 @@ public final class CensusOffice {
                     primary |= 1 << k;
                 }
             }
+            int all = (1 << cells) - 1;
             bestSet = NONE;
-            bestCost = Integer.MAX_VALUE;
-            choose(primary, 0, wide, cells - 1);
-            secrets = bestSet == NONE ? (1 << cells) - 1 : bestSet;
+            bestCost = ENDLESS;
+            if (isGood(all, wide)) {
+                choose(primary, all & ~primary, 0, wide);
+            }
+            secrets = bestSet == NONE ? all : bestSet;
             return bestSet == NONE ? NONE : bestCost;
         }
 
         /**
-         * Cells from k down are not yet chosen. The highest come first and are left out first, so of
-         * sets with the same sum the one with the least bits is met first. A set that is not good
-         * with all that may still come is not good with less: more secret cells only widen.
+         * The set is good with all the open cells, of which there is one less each time. The highest
+         * come first and are left out first, so of sets with the same sum the one with the least bits
+         * is met first. What is not good with all that may still come is not good with less: more
+         * secret cells only widen the intervals.
          */
-        private void choose(int set, int cost, int wide, int k) {
-            int open = (1 << k + 1) - 1 & ~primary;
-            if (cost >= bestCost || !isGood(set | open, wide)) {
+        private void choose(int set, int open, int cost, int wide) {
+            if (cost >= bestCost) {
                 return;
             }
             if (open == 0) {
@@ -1858,9 +1855,13 @@ public final class CensusOffice {
                 bestCost = cost;
                 return;
             }
-            int highest = Integer.SIZE - 1 - Integer.numberOfLeadingZeros(open);
-            choose(set, cost, wide, highest - 1);
-            choose(set | 1 << highest, cost + sums[highest] + 1, wide, highest - 1);
+            int highest = Integer.highestOneBit(open);
+            int rest = open & ~highest;
+            if (isGood(set | rest, wide)) {
+                choose(set, rest, cost, wide);
+            }
+            int k = Integer.numberOfTrailingZeros(highest);
+            choose(set | highest, rest, cost + (k < cells ? sums[k] + 1 : 0), wide);
         }
 
         private boolean isGood(int set, int wide) {
@@ -1894,7 +1895,7 @@ public final class CensusOffice {
                 return 0;
             }
             int others = set & ~(1 << k);
-            int least = Integer.MAX_VALUE;
+            int least = ENDLESS;
             for (int apart = 0; apart < 1 << rows; apart++) {
                 if (!hasBit(apart, k / columns)) {
                     int touched = columnsOf(others, apart) | 1 << k % columns;

@@ -76,6 +76,14 @@ final class Checks {
         return office.form();
     }
 
+    /** An office with one unit and one form. */
+    static CensusOffice office(String text) {
+        CensusOffice office = new CensusOffice();
+        office.unit();
+        form(office, text);
+        return office;
+    }
+
     static int four(String text, int at) {
         int bytes = 0;
         for (int k = at; k < at + 4; k++) {

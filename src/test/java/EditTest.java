@@ -23,15 +23,8 @@ public final class EditTest {
         CHECKS.end();
     }
 
-    private static CensusOffice office(String text) {
-        CensusOffice x = new CensusOffice();
-        x.unit();
-        Checks.form(x, text);
-        return x;
-    }
-
     private static void recordsKept() {
-        CensusOffice x = office("ask a 0 9;ask b 0 9 if a>4;let c a+1;must a=a;warn a=a;");
+        CensusOffice x = Checks.office("ask a 0 9;ask b 0 9 if a>4;let c a+1;must a=a;warn a=a;");
         Checks.record(x, 0, 0, 3);
         int[] want = {3, ABSENT, 4, ABSENT, ABSENT};
         for (int s = 0; s < 5; s++) {
@@ -49,7 +42,7 @@ public final class EditTest {
     }
 
     private static void rulesRefused() {
-        CensusOffice x = office("ask a 0 9;let b a;ask c 0 9;must a=b;");
+        CensusOffice x = Checks.office("ask a 0 9;let b a;ask c 0 9;must a=b;");
         CHECKS.refused("20 form", Checks.INDEX, () -> x.rule(1, 1, 1, 9));
         CHECKS.refused("20 form below", Checks.INDEX, () -> x.rule(-1, 0, 2, 0));
         CHECKS.refused("20 a", Checks.INDEX, () -> x.rule(0, 4, 1, 0));
@@ -68,7 +61,7 @@ public final class EditTest {
     }
 
     private static void rulesFull() {
-        CensusOffice x = office("ask a 0 9;ask b 0 9;");
+        CensusOffice x = Checks.office("ask a 0 9;ask b 0 9;");
         Checks.form(x, "ask a 0 9;");
         for (int k = 0; k < 16; k++) {
             int want = k;
@@ -83,7 +76,7 @@ public final class EditTest {
     }
 
     private static void costs() {
-        CensusOffice x = office("ask a 0 9;let b a;");
+        CensusOffice x = Checks.office("ask a 0 9;let b a;");
         CHECKS.due("21 it was 1", 1, () -> x.cost(0, 0, 100));
         CHECKS.due("11 it is 100", 100, () -> x.statement(0, 0, 3));
         CHECKS.due("21 it was 100", 100, () -> x.cost(0, 0, 1));
@@ -97,7 +90,7 @@ public final class EditTest {
     }
 
     private static void breaking() {
-        CensusOffice x = office("ask a 0 9;ask b 0 9;ask c 0 9 if a=0;");
+        CensusOffice x = Checks.office("ask a 0 9;ask b 0 9;ask c 0 9 if a=0;");
         x.rule(0, 0, 1, 2);
         x.rule(0, 1, 0, 2);
         x.rule(0, 0, NONE, 5);
@@ -120,7 +113,7 @@ public final class EditTest {
     }
 
     private static void leastSets() {
-        CensusOffice x = office("ask a 0 9;ask b 0 9;ask c 0 9;let d a;ask e 0 9;");
+        CensusOffice x = Checks.office("ask a 0 9;ask b 0 9;ask c 0 9;let d a;ask e 0 9;");
         Checks.record(x, 0, 0, 9, 1, 9, 9);
         CHECKS.due("23 no rule, nothing to change", 0, () -> x.least(0, false));
         CHECKS.due("23 the empty set", 0, () -> x.least(0, true));
@@ -139,7 +132,7 @@ public final class EditTest {
     }
 
     private static void leastByCosts() {
-        CensusOffice x = office("ask a 0 9;ask b 0 9;ask c 0 9;");
+        CensusOffice x = Checks.office("ask a 0 9;ask b 0 9;ask c 0 9;");
         x.rule(0, 0, 1, 0);
         x.rule(0, 2, 1, 0);
         Checks.record(x, 0, 0, 9, 1, 9);
@@ -152,7 +145,7 @@ public final class EditTest {
     }
 
     private static void noSet() {
-        CensusOffice x = office("ask a 0 9;ask b 0 9;ask c 0 9 if a>5;");
+        CensusOffice x = Checks.office("ask a 0 9;ask b 0 9;ask c 0 9 if a>5;");
         Checks.record(x, 0, 0, 3, 4);
         Checks.record(x, 0, 0, 7, 4, 2);
         x.rule(0, 0, 1, -9);
@@ -163,7 +156,7 @@ public final class EditTest {
         CHECKS.refused("24 no set", Checks.STATE, () -> x.impute(0, 0));
         CHECKS.refused("24 by a donor neither", Checks.STATE, () -> x.impute(0, 1));
         CHECKS.due("18 nothing changed", 3, () -> x.item(0, 0));
-        CensusOffice y = office("ask a 0 1000;ask b 0 1000;");
+        CensusOffice y = Checks.office("ask a 0 1000;ask b 0 1000;");
         Checks.record(y, 0, 0, 500, 500);
         y.rule(0, 0, 1, -1);
         y.rule(0, 1, 0, 0);
@@ -171,7 +164,7 @@ public final class EditTest {
     }
 
     private static void greatestTogether() {
-        CensusOffice x = office("ask a 0 9;ask b 0 9;ask c 0 9;");
+        CensusOffice x = Checks.office("ask a 0 9;ask b 0 9;ask c 0 9;");
         x.rule(0, 0, 1, -2);
         x.rule(0, 1, 2, -1);
         Checks.record(x, 0, 0, 9, 9, 4);
@@ -186,7 +179,7 @@ public final class EditTest {
         CHECKS.due("22 none is broken", 0, () -> x.broken(0, NONE));
         CHECKS.due("24 nothing more", 0, () -> x.impute(0, 0));
         CHECKS.due("19 a keeps its mark", 1, () -> x.mark(0, 0));
-        CensusOffice y = office("ask a 0 9;ask b 0 9;");
+        CensusOffice y = Checks.office("ask a 0 9;ask b 0 9;");
         y.rule(0, NONE, 0, -5);
         Checks.record(y, 0, 0, 3, 3);
         CHECKS.due("24 one item", 1, () -> y.impute(0, 0));
@@ -194,7 +187,7 @@ public final class EditTest {
     }
 
     private static void chains() {
-        CensusOffice x = office("ask a 0 99;ask b 0 99;ask c 0 99;ask d 0 99;ask e 0 99;"
+        CensusOffice x = Checks.office("ask a 0 99;ask b 0 99;ask c 0 99;ask d 0 99;ask e 0 99;"
                 + "ask f 0 99;ask g 0 99;ask h 0 99;ask i 0 99;ask j 0 99;");
         for (int k = 0; k < 9; k++) {
             x.rule(0, k, k + 1, -1);
@@ -210,7 +203,7 @@ public final class EditTest {
     }
 
     private static void donors() {
-        CensusOffice x = office("ask a 0 9;ask b 0 9;ask c 0 9;");
+        CensusOffice x = Checks.office("ask a 0 9;ask b 0 9;ask c 0 9;");
         x.rule(0, 0, 1, 0);
         Checks.record(x, 0, 0, 9, 5, 5);
         Checks.record(x, 0, 0, 2, 9, 9);
@@ -230,7 +223,7 @@ public final class EditTest {
     }
 
     private static void donorsPassedOver() {
-        CensusOffice x = office("ask a 0 9;ask b 0 9;ask c 0 9 if b<>1;");
+        CensusOffice x = Checks.office("ask a 0 9;ask b 0 9;ask c 0 9 if b<>1;");
         Checks.form(x, "ask a 0 9;ask b 0 9;ask c 0 9;");
         x.rule(0, 2, 0, 0);
         x.cost(0, 0, 5);
@@ -250,7 +243,7 @@ public final class EditTest {
     }
 
     private static void donorsByDistance() {
-        CensusOffice x = office("ask a 0 9;ask b 0 9 if a<>1;ask c 0 9;");
+        CensusOffice x = Checks.office("ask a 0 9;ask b 0 9 if a<>1;ask c 0 9;");
         x.rule(0, 2, NONE, 7);
         Checks.record(x, 0, 0, 5, 5, 9);
         Checks.record(x, 0, 0, 4, 4, 1);
@@ -265,7 +258,7 @@ public final class EditTest {
     }
 
     private static void letsAnew() {
-        CensusOffice x = office("ask a 0 9;ask b 0 9;let c a+b+reg 0;let d 1 if a>5;let e c+1 if a<=5;ask f 0 9 if a<5;");
+        CensusOffice x = Checks.office("ask a 0 9;ask b 0 9;let c a+b+reg 0;let d 1 if a>5;let e c+1 if a<=5;ask f 0 9 if a<5;");
         x.tell(0, 0, 0, 100);
         x.rule(0, 0, NONE, 3);
         Checks.record(x, 0, 0, 8, 2);
@@ -286,7 +279,7 @@ public final class EditTest {
     }
 
     private static void imputeRefused() {
-        CensusOffice x = office("ask a 0 9;");
+        CensusOffice x = Checks.office("ask a 0 9;");
         x.rule(0, 0, NONE, -1);
         Checks.record(x, 0, 0, 3);
         CHECKS.refused("24 record", Checks.INDEX, () -> x.impute(1, 7));

@@ -21,15 +21,8 @@ public final class SessionTest {
         CHECKS.end();
     }
 
-    private static CensusOffice office(String text) {
-        CensusOffice x = new CensusOffice();
-        x.unit();
-        Checks.form(x, text);
-        return x;
-    }
-
     private static void opening() {
-        CensusOffice x = office("ask a 0 9;");
+        CensusOffice x = Checks.office("ask a 0 9;");
         x.unit();
         x.merge(0, 1);
         CHECKS.refused("12 form", Checks.INDEX, () -> x.open(1, 0));
@@ -54,7 +47,7 @@ public final class SessionTest {
     }
 
     private static void walking() {
-        CensusOffice x = office("let z 3;ask a 0 9;ask b 0 9 if a>4;let c a+b;let d 7 if a=1;ask e 5 6;");
+        CensusOffice x = Checks.office("let z 3;ask a 0 9;ask b 0 9 if a>4;let c a+b;let d 7 if a=1;ask e 5 6;");
         x.open(0, 0);
         CHECKS.due("13 the first question", 1, () -> x.question(0));
         CHECKS.due("16 a let ahead of it", 3, () -> x.given(0, 0, false));
@@ -82,7 +75,7 @@ public final class SessionTest {
     }
 
     private static void exprs() {
-        CensusOffice x = office("let a 5 - 3 - 1;let b 5 - - 3 + a;let c 0-a-b;"
+        CensusOffice x = Checks.office("let a 5 - 3 - 1;let b 5 - - 3 + a;let c 0-a-b;"
                 + "let d 999999+1;let e d+1;let f d+1-1;let g 0-d;let h g-1;let i a+a-a+0-5;");
         x.open(0, 0);
         int[] want = {1, 9, -10, 1000000, ABSENT, 1000000, -1000000, ABSENT, -4};
@@ -90,7 +83,7 @@ public final class SessionTest {
             int statement = s;
             CHECKS.due("16 expr " + s, want[s], () -> x.given(0, statement, false));
         }
-        CensusOffice y = office("let a 1 if 1<2 and 2<=2 and 3=3;let b 1 if 1>2 or 2>=3 or 3<>3;"
+        CensusOffice y = Checks.office("let a 1 if 1<2 and 2<=2 and 3=3;let b 1 if 1>2 or 2>=3 or 3<>3;"
                 + "let c 1 if 1=2 and 1=1 or 2=2;let d 1 if 1=1 or 1=2 and 1=2;let e 1 if 1=2 or 2=2 and 2=3;"
                 + "let f 1 if 2<>3 and 3>2 and 3>=2;let g 1 if 2<2 or 2>2;");
         y.open(0, 0);
@@ -102,7 +95,7 @@ public final class SessionTest {
     }
 
     private static void absence() {
-        CensusOffice x = office("ask a 0 9;let n reg 0;let b 1 if n=n;let c 1 if n<>1;let d 1 if n=1 or 1=1;"
+        CensusOffice x = Checks.office("ask a 0 9;let n reg 0;let b 1 if n=n;let c 1 if n<>1;let d 1 if n=1 or 1=1;"
                 + "let e 1 if 999999+2 > 1;must n = 1;must a=1 or n=1;must a=1 and n=1;ask f 0 9;");
         x.open(0, 0);
         CHECKS.due("14 no must is broken by what is absent", 0, () -> x.answer(0, 5));
@@ -114,7 +107,7 @@ public final class SessionTest {
     }
 
     private static void registerAsItWas() {
-        CensusOffice x = office("let a reg 0;let b reg 5;ask c 0 9;let d reg 0 - reg 5;");
+        CensusOffice x = Checks.office("let a reg 0;let b reg 5;ask c 0 9;let d reg 0 - reg 5;");
         x.unit();
         x.tick(1440);
         x.tell(0, 0, 1, 11);
@@ -137,7 +130,7 @@ public final class SessionTest {
     }
 
     private static void musts() {
-        CensusOffice x = office("must 1=2;ask a 0 9;must a>2;must a>4;ask b 0 9;must a>8;");
+        CensusOffice x = Checks.office("must 1=2;ask a 0 9;must a>2;must a>4;ask b 0 9;must a>8;");
         x.open(0, 0);
         CHECKS.due("13 a must ahead refuses nothing", 1, () -> x.question(0));
         CHECKS.due("14 by the first must", 102, () -> x.answer(0, 1));
@@ -151,7 +144,7 @@ public final class SessionTest {
     }
 
     private static void warns() {
-        CensusOffice x = office("ask a 0 9;warn a>2;warn a>4;ask b 0 9;warn b>0;");
+        CensusOffice x = Checks.office("ask a 0 9;warn a>2;warn a>4;ask b 0 9;warn b>0;");
         x.open(0, 0);
         CHECKS.due("14 by the first warn", 201, () -> x.answer(0, 1));
         CHECKS.due("14 by the second warn", 202, () -> x.answer(0, 1));
@@ -162,7 +155,7 @@ public final class SessionTest {
     }
 
     private static void mustsFirst() {
-        CensusOffice x = office("ask a 0 9;warn a>2;must a>1;");
+        CensusOffice x = Checks.office("ask a 0 9;warn a>2;must a>1;");
         x.open(0, 0);
         CHECKS.due("14 a must behind a warn", 102, () -> x.answer(0, 1));
         CHECKS.due("14 the warn alone", 201, () -> x.answer(0, 2));
@@ -170,7 +163,7 @@ public final class SessionTest {
     }
 
     private static void notesGone() {
-        CensusOffice x = office("ask a 0 9;warn a>4;must a>0;ask b 0 9;warn b>4;");
+        CensusOffice x = Checks.office("ask a 0 9;warn a>4;must a>0;ask b 0 9;warn b>4;");
         x.open(0, 0);
         CHECKS.due("14 noted with 1", 201, () -> x.answer(0, 1));
         CHECKS.due("14 another number", 201, () -> x.answer(0, 2));
@@ -193,7 +186,7 @@ public final class SessionTest {
     }
 
     private static void goingBack() {
-        CensusOffice x = office("ask a 0 9;ask b 0 9 if a>4;ask c 0 9;");
+        CensusOffice x = Checks.office("ask a 0 9;ask b 0 9 if a>4;ask c 0 9;");
         x.open(0, 0);
         CHECKS.due("15 nothing given", NONE, () -> x.back(0));
         x.answer(0, 3);
@@ -212,7 +205,7 @@ public final class SessionTest {
     }
 
     private static void asides() {
-        CensusOffice x = office("ask a 0 9;ask b 0 9 if a>4;ask c 0 9;ask d 0 9;");
+        CensusOffice x = Checks.office("ask a 0 9;ask b 0 9 if a>4;ask c 0 9;ask d 0 9;");
         x.open(0, 0);
         x.answer(0, 3);
         x.answer(0, 4);
@@ -249,7 +242,7 @@ public final class SessionTest {
     }
 
     private static void asidesStopped() {
-        CensusOffice x = office("ask a 0 9;ask b 0 9;must a<>b;warn b<>5;ask c 0 9;");
+        CensusOffice x = Checks.office("ask a 0 9;ask b 0 9;must a<>b;warn b<>5;ask c 0 9;");
         x.open(0, 0);
         x.answer(0, 1);
         x.answer(0, 2);
@@ -274,7 +267,7 @@ public final class SessionTest {
     }
 
     private static void ends() {
-        CensusOffice x = office("ask a 0 9;must a>0;let b a+1;");
+        CensusOffice x = Checks.office("ask a 0 9;must a>0;let b a+1;");
         x.open(0, 0);
         CHECKS.refused("17 not at its end", Checks.STATE, () -> x.close(0));
         CHECKS.refused("17 session", Checks.INDEX, () -> x.close(1));
@@ -293,7 +286,7 @@ public final class SessionTest {
         x.open(0, 0);
         x.answer(2, 1);
         CHECKS.due("17 records by closing", 1, () -> x.close(2));
-        CensusOffice y = office("let a 1;must a=2;");
+        CensusOffice y = Checks.office("let a 1;must a=2;");
         y.open(0, 0);
         CHECKS.due("13 nothing to ask", NONE, () -> y.question(0));
         CHECKS.due("15 nothing to go back to", NONE, () -> y.back(0));
