@@ -315,7 +315,7 @@ public final class CensusOffice {
         }
         int donor = way == 1 ? editor.donorOf(records, kept, set) : NONE;
         if (donor != NONE) {
-            kept.change(set, records.get(donor).items, MARK_DONOR);
+            kept.change(set, recordAt(donor).items, MARK_DONOR);
         } else {
             kept.change(set, editor.greatestOf(kept, set), MARK_GREATEST);
         }

@@ -10,6 +10,7 @@ public final class FormTest {
         faultsOfGrammar();
         faultsOfLimits();
         emptiedAndKept();
+        trimmedBytes();
         statements();
         CHECKS.end();
     }
@@ -190,6 +191,23 @@ public final class FormTest {
         Checks.write(y, " 9;");
         CHECKS.due("10 of two writings", 0, () -> y.form());
         CHECKS.due("10 an empty tape", -1, () -> y.form());
+    }
+
+    /** What was trimmed away is no part of a token at the end, though its bytes go on with it. */
+    private static void trimmedBytes() {
+        trimmed("must 1=1;must 2=2", "34;");
+        trimmed("let a 1;must 1=a", "b<2;");
+        trimmed("must 1 <", "= 2;");
+        trimmed("must 1 >", "= 2;");
+        trimmed("must 1=1", ";");
+        trimmed("must 1=1 ", ";");
+    }
+
+    private static void trimmed(String kept, String more) {
+        CensusOffice x = new CensusOffice();
+        Checks.write(x, kept + more);
+        x.trim(kept.length());
+        CHECKS.due("10 trimmed: " + kept, -1 - kept.length(), () -> x.form());
     }
 
     private static void statements() {
