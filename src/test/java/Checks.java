@@ -30,15 +30,15 @@ final class Checks {
         }
     }
 
-    /** The very class is asked for, so that what the machine throws is not taken for it. */
+    /** The very class, thrown by the office itself: what the machine or a list throws is not taken for it. */
     void refused(String what, Class<? extends RuntimeException> want, Call call) {
         made++;
         try {
             int got = call.answer();
             report(what, "answered " + got + ", due is " + want.getName());
         } catch (RuntimeException e) {
-            if (e.getClass() != want) {
-                report(what, "threw " + e + ", due is " + want.getName());
+            if (e.getClass() != want || !e.getStackTrace()[0].getClassName().startsWith("CensusOffice")) {
+                report(what, "threw " + e + " at " + e.getStackTrace()[0] + ", due is " + want.getName());
             }
         }
     }

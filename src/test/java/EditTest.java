@@ -13,8 +13,10 @@ public final class EditTest {
         leastSets();
         leastByCosts();
         noSet();
+        absentAsks();
         greatestTogether();
         chains();
+        twentyStatements();
         donors();
         donorsPassedOver();
         donorsByDistance();
@@ -161,6 +163,44 @@ public final class EditTest {
         y.rule(0, 0, 1, -1);
         y.rule(0, 1, 0, 0);
         CHECKS.due("23 a round of rules that sinks", NONE, () -> y.least(0, true));
+    }
+
+    private static void absentAsks() {
+        CensusOffice x = Checks.office("ask a 0 9 if reg 0=1;ask b 0 9;");
+        x.rule(0, 0, NONE, -1);
+        x.rule(0, 1, 0, -20);
+        Checks.record(x, 0, 0, 5);
+        CHECKS.due("22 what is absent breaks nothing", 0, () -> x.broken(0, NONE));
+        CHECKS.due("23 nor is it in a set", 0, () -> x.least(0, true));
+        x.rule(0, 1, NONE, 3);
+        CHECKS.due("24 b alone", 1, () -> x.impute(0, 0));
+        CHECKS.due("18 a stays absent", ABSENT, () -> x.item(0, 0));
+        CHECKS.due("18 b", 3, () -> x.item(0, 1));
+    }
+
+    private static void twentyStatements() {
+        StringBuilder text = new StringBuilder();
+        for (int k = 0; k < 10; k++) {
+            char name = (char) ('a' + k);
+            text.append("let ").append(name).append("x ").append(k).append(";ask ").append(name).append(" 0 9;");
+        }
+        CensusOffice x = Checks.office(text.toString());
+        Checks.record(x, 0, 0, 1, 1, 1, 1, 1, 1, 1, 1, 1, 1);
+        Checks.record(x, 0, 0, 2, 2, 2, 2, 2, 2, 2, 2, 2, 2);
+        x.rule(0, NONE, 19, -2);
+        CHECKS.due("23 the last of twenty", 1 << 19, () -> x.least(0, true));
+        CHECKS.due("24 by a donor", 1, () -> x.impute(0, 1));
+        CHECKS.due("18 the last of twenty", 2, () -> x.item(0, 19));
+        CHECKS.due("18 the last let", 9, () -> x.item(0, 18));
+        x.rule(0, NONE, 19, -5);
+        CHECKS.due("24 by the greatest", 1, () -> x.impute(0, 0));
+        CHECKS.due("18 the greatest", 9, () -> x.item(0, 19));
+        x.open(0, 0);
+        for (int k = 0; k < 10; k++) {
+            x.answer(2, k);
+        }
+        CHECKS.due("15 from the end of twenty", 19, () -> x.back(2));
+        CHECKS.due("16 aside", 9, () -> x.given(2, 19, true));
     }
 
     private static void greatestTogether() {

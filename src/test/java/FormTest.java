@@ -200,6 +200,7 @@ public final class FormTest {
         trimmed("must 1 <", "= 2;");
         trimmed("must 1 >", "= 2;");
         trimmed("must 1=1", ";");
+        trimmed("must 1=1", " ;");
         trimmed("must 1=1 ", ";");
     }
 

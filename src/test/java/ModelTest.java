@@ -260,6 +260,7 @@ public final class ModelTest {
             }
             call("cell", table, random.nextInt(rows + 1), random.nextInt(columns + 1), random.nextInt(4));
             call("look", random.nextInt(2), told("told", 10) - 1, random.nextInt(rows + 1), random.nextInt(columns + 1));
+            call("looked", told("told", 11) - 1, random.nextInt(6));
         }
     }
 

@@ -9,6 +9,7 @@ public final class RegisterTest {
         units();
         tellings();
         tellingsRefused();
+        tellingsFull();
         merges();
         values();
         valuesAsKnown();
@@ -92,6 +93,19 @@ public final class RegisterTest {
         CHECKS.refused("4 merged", Checks.STATE, () -> x.tell(0, 0, 0, 0));
         CHECKS.due("4 none told", 0, () -> x.told(1));
         CHECKS.due("4 the one it went into", 1, () -> x.tell(1, 0, 0, 0));
+    }
+
+    private static void tellingsFull() {
+        CensusOffice x = new CensusOffice();
+        x.unit();
+        x.unit();
+        x.merge(1, 0);
+        for (int k = 0; k < 1500; k++) {
+            x.tell(0, 0, k, k);
+        }
+        CHECKS.refused("4 no room", Checks.ROOM, () -> x.tell(0, 0, 0, 0));
+        CHECKS.refused("4 merged first", Checks.STATE, () -> x.tell(1, 0, 0, 0));
+        CHECKS.due("6 the last telling", 1499, () -> x.value(0, 0, 1500, 0));
     }
 
     private static void merges() {

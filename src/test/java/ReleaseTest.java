@@ -135,6 +135,8 @@ public final class ReleaseTest {
         CHECKS.due("36 nothing was secret", 5, () -> x.look(0, 0, 0, 0));
         CHECKS.due("36 all was secret", SECRET, () -> x.look(0, 1, 1, 1));
         CHECKS.due("36 it was not rounded", 37, () -> x.look(0, 0, 2, 2));
+        CHECKS.due("38 the release", 1, () -> x.looked(1, 1));
+        CHECKS.due("38 the column", 1, () -> x.looked(1, 3));
     }
 
     private static void roundedOnes() {

@@ -8,6 +8,8 @@ public final class SampleTest {
         allotments();
         restsOfTheSame();
         keys();
+        keysAlike();
+        hundredUnits();
         refusals();
         laterUnits();
         overlaps();
@@ -123,6 +125,31 @@ public final class SampleTest {
             }
             CHECKS.due("26 eleven", NONE, () -> x.drawn(0, 11));
         }
+    }
+
+    /** Seeds by which the keys of units 0 and 1 have the same upper half: the lower one decides. */
+    private static void keysAlike() {
+        int[] seeds = {113413, 161289, 329303, 363982, 410861};
+        int[] drawn = {0, 0, 0, 1, 0};
+        for (int k = 0; k < seeds.length; k++) {
+            CensusOffice x = office(1, 1);
+            x.sample(0, 0, 0, 1, 1, seeds[k]);
+            CHECKS.due("25 seed " + seeds[k], drawn[k], () -> x.drawn(0, 0));
+        }
+    }
+
+    private static void hundredUnits() {
+        int[] strata = new int[100];
+        for (int k = 0; k < 100; k++) {
+            strata[k] = k % 50;
+        }
+        CensusOffice x = office(strata);
+        x.sample(0, 0, 0, 1, 50, 8);
+        CHECKS.due("26 the last of fifty", CensusOffice.NONE, () -> x.drawn(0, 50));
+        CHECKS.due("27 one of two", 2, () -> x.chance(0, 99, true));
+        x.sample(0, 0, 0, 1, 100, 8);
+        CHECKS.due("26 the last of all", 99, () -> x.drawn(1, 99));
+        CHECKS.due("28 fifty", 50, () -> x.overlap(0, 1));
     }
 
     private static void refusals() {
