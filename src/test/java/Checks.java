@@ -4,6 +4,10 @@ final class Checks {
         int answer();
     }
 
+    interface CallOf {
+        int answer(int k);
+    }
+
     static final Class<IndexOutOfBoundsException> INDEX = IndexOutOfBoundsException.class;
     static final Class<IllegalArgumentException> ARGUMENT = IllegalArgumentException.class;
     static final Class<IllegalStateException> STATE = IllegalStateException.class;
@@ -40,6 +44,28 @@ final class Checks {
             if (e.getClass() != want || !e.getStackTrace()[0].getClassName().startsWith("CensusOffice")) {
                 report(what, "threw " + e + " at " + e.getStackTrace()[0] + ", due is " + want.getName());
             }
+        }
+    }
+
+    /** The answers of a call for 0, 1, 2 and so on. */
+    void row(String what, int[] want, CallOf call) {
+        for (int k = 0; k < want.length; k++) {
+            int asked = k;
+            due(what + ", " + k, want[k], () -> call.answer(asked));
+        }
+    }
+
+    /** Each of the calls is refused by the same exception; they are told apart by their place. */
+    void allRefused(String what, Class<? extends RuntimeException> want, Call... calls) {
+        for (int k = 0; k < calls.length; k++) {
+            refused(what + ", call " + k, want, calls[k]);
+        }
+    }
+
+    /** A call is refused for each of the numbers. */
+    void refusedFor(String what, Class<? extends RuntimeException> want, CallOf call, int... numbers) {
+        for (int number : numbers) {
+            refused(what + ", " + number, want, () -> call.answer(number));
         }
     }
 
