@@ -110,6 +110,17 @@ final class Checks {
         return office;
     }
 
+    /** Units with field 0 at 0, and their strata in field 1. */
+    static CensusOffice strata(int... strata) {
+        CensusOffice office = new CensusOffice();
+        for (int unit = 0; unit < strata.length; unit++) {
+            office.unit();
+            office.tell(unit, 0, 0, 0);
+            office.tell(unit, 1, 0, strata[unit]);
+        }
+        return office;
+    }
+
     static int four(String text, int at) {
         int bytes = 0;
         for (int k = at; k < at + 4; k++) {

@@ -399,6 +399,7 @@ public final class FormEdgeTest {
         fault("ask a 999999 ^-999999;");
         fault("ask a ^+1 2;");
         fault("ask a - ^- 1 2;");
+        fault("ask z -9 -9;ask a -^- 1;");
         fault("ask a 1 - ^;");
         fault("ask a 1 ^b;");
         fault("ask a 1 ^reg 5;");

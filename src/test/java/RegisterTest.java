@@ -95,16 +95,21 @@ public final class RegisterTest {
         CHECKS.due("4 the one it went into", 1, () -> x.tell(1, 0, 0, 0));
     }
 
+    /** Far behind the 512th call, where the document promises nothing: the limit stands all the same. */
     private static void tellingsFull() {
         CensusOffice x = new CensusOffice();
         x.unit();
         x.unit();
         x.merge(1, 0);
-        for (int k = 0; k < 1500; k++) {
+        for (int k = 0; k < 1499; k++) {
             x.tell(0, 0, k, k);
         }
+        CHECKS.due("4 the 1500th", 1500, () -> x.tell(0, 0, 1499, 1499));
         CHECKS.refused("4 no room", Checks.ROOM, () -> x.tell(0, 0, 0, 0));
         CHECKS.refused("4 merged first", Checks.STATE, () -> x.tell(1, 0, 0, 0));
+        CHECKS.refused("4 a number first", Checks.ARGUMENT, () -> x.tell(0, 0, 0, 1000001));
+        CHECKS.refused("4 a field first", Checks.INDEX, () -> x.tell(0, 6, 0, 0));
+        CHECKS.due("4 refused: 1500", 1500, () -> x.told(1));
         CHECKS.due("6 the last telling", 1499, () -> x.value(0, 0, 1500, 0));
     }
 

@@ -27,6 +27,7 @@ public final class SampleEdgeTest {
         restsOfNothing();
         roundedDown();
         keysWithSign();
+        keysAtTheEnds();
         keysInEachStratum();
         drawnTakesSamples();
         drawnTakesPlaces();
@@ -36,17 +37,6 @@ public final class SampleEdgeTest {
         overlapTakesSamples();
         overlapOfNoneAndAll();
         CHECKS.end();
-    }
-
-    /** Units with field 0 at 0, and their strata in field 1. */
-    private static CensusOffice office(int... strata) {
-        CensusOffice x = new CensusOffice();
-        for (int unit = 0; unit < strata.length; unit++) {
-            x.unit();
-            x.tell(unit, 0, 0, 0);
-            x.tell(unit, 1, 0, strata[unit]);
-        }
-        return x;
     }
 
     private static void drew(String what, CensusOffice x, int sample, int... units) {
@@ -73,7 +63,7 @@ public final class SampleEdgeTest {
     }
 
     private static void sampleTakesNoneToAll() {
-        CensusOffice x = office(1, 1, 2);
+        CensusOffice x = Checks.strata(1, 1, 2);
         CHECKS.refusedFor("25 n below 0, or more than the FRAME has", Checks.ARGUMENT, n -> x.sample(0, 0, 0, 1, n, 5),
                 -1, 4, LEAST, MOST);
         CHECKS.due("25 nobody", 0, () -> x.sample(0, 0, 0, 1, 0, 5));
@@ -85,7 +75,7 @@ public final class SampleEdgeTest {
     }
 
     private static void sampleOfAnEmptyFrame() {
-        CensusOffice x = office(1);
+        CensusOffice x = Checks.strata(1);
         CHECKS.refused("25 one of nobody", Checks.ARGUMENT, () -> x.sample(0, 1, 1, 1, 1, 5));
         CHECKS.due("25 none of nobody", 0, () -> x.sample(0, 1, 1, 1, 0, 5));
         drew("26 nobody", x, 0);
@@ -93,7 +83,7 @@ public final class SampleEdgeTest {
     }
 
     private static void sampleOfOneUnit() {
-        CensusOffice x = office(1);
+        CensusOffice x = Checks.strata(1);
         CHECKS.due("25 the only one", 0, () -> x.sample(0, 0, 0, 1, 1, 5));
         drew("26 the only one", x, 0, 0);
         chances("27 the only one", x, 0, 1, 1);
@@ -101,7 +91,7 @@ public final class SampleEdgeTest {
     }
 
     private static void samplesAreTwelve() {
-        CensusOffice x = office(1, 1);
+        CensusOffice x = Checks.strata(1, 1);
         for (int k = 0; k < 11; k++) {
             x.sample(0, 0, 0, 1, 1, k);
         }
@@ -113,7 +103,7 @@ public final class SampleEdgeTest {
     }
 
     private static void sampleRefusesInOrder() {
-        CensusOffice x = office(1, 1);
+        CensusOffice x = Checks.strata(1, 1);
         CHECKS.allRefused("25 an index ahead of n", Checks.INDEX, () -> x.sample(6, 0, 0, 1, -1, 0),
                 () -> x.sample(0, 0, 0, 6, 3, 0), () -> x.sample(-1, 0, 0, -1, 3, 0));
         for (int k = 0; k < 12; k++) {
@@ -127,7 +117,7 @@ public final class SampleEdgeTest {
     }
 
     private static void sampleRefusedChangesNothing() {
-        CensusOffice x = office(1, 1, 1);
+        CensusOffice x = Checks.strata(1, 1, 1);
         x.sample(0, 0, 0, 1, 1, 77);
         CHECKS.refused("25 n", Checks.ARGUMENT, () -> x.sample(0, 0, 0, 1, 4, 0));
         CHECKS.refused("25 g", Checks.INDEX, () -> x.sample(0, 0, 0, 6, 3, 0));
@@ -187,7 +177,7 @@ public final class SampleEdgeTest {
     }
 
     private static void frameWithoutMergedOnes() {
-        CensusOffice x = office(1, 2, 3);
+        CensusOffice x = Checks.strata(1, 2, 3);
         x.tell(0, 2, 0, 9);
         x.merge(0, 1);
         CHECKS.refused("25 the unit that went is not in it", Checks.ARGUMENT, () -> x.sample(0, 0, 0, 1, 3, 0));
@@ -211,18 +201,18 @@ public final class SampleEdgeTest {
     }
 
     private static void strataRising() {
-        CensusOffice x = office(1000000, 0, -1000000);
+        CensusOffice x = Checks.strata(1000000, 0, -1000000);
         x.sample(0, 0, 0, 1, 1, 0);
         drew("25 -1000000 is the first stratum", x, 0, 2);
         x.sample(0, 0, 0, 1, 2, 0);
         drew("25 0 is the second", x, 1, 1, 2);
-        CensusOffice y = office(-1, -2);
+        CensusOffice y = Checks.strata(-1, -2);
         y.sample(0, 0, 0, 1, 1, 0);
         drew("25 -2 is ahead of -1", y, 0, 1);
     }
 
     private static void restsApartByOne() {
-        CensusOffice x = office(1, 1, 2, 2, 2);
+        CensusOffice x = Checks.strata(1, 1, 2, 2, 2);
         x.sample(0, 0, 0, 1, 1, 77);
         chances("25 the rest 3 is ahead of the rest 2", x, 0, 0, 1, 0, 1, 1, 3, 1, 3, 1, 3);
         CHECKS.due("26 one was drawn", NONE, () -> x.drawn(0, 1));
@@ -232,7 +222,7 @@ public final class SampleEdgeTest {
     }
 
     private static void restsOfTheSame() {
-        CensusOffice x = office(3, 2, 1, 3, 2, 1);
+        CensusOffice x = Checks.strata(3, 2, 1, 3, 2, 1);
         x.sample(0, 0, 0, 1, 1, 0);
         chances("25 the least stratum", x, 0, 0, 1, 0, 1, 1, 2, 0, 1, 0, 1, 1, 2);
         x.sample(0, 0, 0, 1, 2, 0);
@@ -244,14 +234,14 @@ public final class SampleEdgeTest {
     }
 
     private static void restsOfNothing() {
-        CensusOffice x = office(1, 1, 1, 1, 2, 2);
+        CensusOffice x = Checks.strata(1, 1, 1, 1, 2, 2);
         x.sample(0, 0, 0, 1, 3, 0);
         chances("25 2 of 4, 1 of 2", x, 0, 1, 2, 1, 2, 1, 2, 1, 2, 1, 2, 1, 2);
         CHECKS.due("26 three were drawn", NONE, () -> x.drawn(0, 3));
     }
 
     private static void roundedDown() {
-        CensusOffice x = office(1, 1, 1, 1, 1, 1, 1, 2, 2, 2);
+        CensusOffice x = Checks.strata(1, 1, 1, 1, 1, 1, 1, 2, 2, 2);
         x.sample(0, 0, 0, 1, 2, 0);
         chances("25 14 / 10 and 6 / 10: 1 and, by the greater rest, 1", x, 0, 1, 7, 1, 7, 1, 7, 1, 7, 1, 7, 1, 7, 1, 7,
                 1, 3, 1, 3, 1, 3);
@@ -261,7 +251,7 @@ public final class SampleEdgeTest {
 
     /** The units with the least keys of ten, worked out apart from any program of this project. */
     private static void keysWithSign() {
-        CensusOffice x = office(1, 1, 1, 1, 1, 1, 1, 1, 1, 1);
+        CensusOffice x = Checks.strata(1, 1, 1, 1, 1, 1, 1, 1, 1, 1);
         int[] seeds = {0, 1, -1, LEAST, MOST, 77, 0x9E3779B9};
         int[][] drawn = {{5, 6, 9}, {3, 4, 9}, {5, 7, 8}, {2, 3, 6}, {2, 4, 8}, {0, 1, 2}, {3, 7, 8}};
         for (int k = 0; k < seeds.length; k++) {
@@ -271,8 +261,19 @@ public final class SampleEdgeTest {
         }
     }
 
+    /** Seeds by which one of two units has the greatest key of all, the least, or one next to 0. */
+    private static void keysAtTheEnds() {
+        CensusOffice x = Checks.strata(1, 1);
+        int[] seeds = {-1676864977, 37383062, 2126966182, -521038817, 857576350, -1389696473, 0, -1640531527};
+        int[] drawn = {1, 0, 0, 1, 0, 1, 0, 1};
+        for (int k = 0; k < seeds.length; k++) {
+            x.sample(0, 0, 0, 1, 1, seeds[k]);
+            drew("25 seed " + seeds[k], x, k, drawn[k]);
+        }
+    }
+
     private static void keysInEachStratum() {
-        CensusOffice x = office(1, 1, 1, 2, 2, 2, 3, 3, 3, 3);
+        CensusOffice x = Checks.strata(1, 1, 1, 2, 2, 2, 3, 3, 3, 3);
         x.sample(0, 0, 0, 1, 3, 0);
         chances("25 one of each", x, 0, 1, 3, 1, 3, 1, 3, 1, 3, 1, 3, 1, 3, 1, 4, 1, 4, 1, 4, 1, 4);
         drew("25 the least key of each, negative ones first", x, 0, 0, 5, 9);
@@ -281,7 +282,7 @@ public final class SampleEdgeTest {
     // ---- 26: drawn
 
     private static void drawnTakesSamples() {
-        CensusOffice x = office(1, 1);
+        CensusOffice x = Checks.strata(1, 1);
         x.sample(0, 0, 0, 1, 1, 77);
         x.sample(0, 0, 0, 1, 2, 77);
         CHECKS.refusedFor("26 no such sample", Checks.INDEX, s -> x.drawn(s, 0), -1, 2, LEAST, MOST);
@@ -289,7 +290,7 @@ public final class SampleEdgeTest {
     }
 
     private static void drawnTakesPlaces() {
-        CensusOffice x = office(1, 1, 1);
+        CensusOffice x = Checks.strata(1, 1, 1);
         x.sample(0, 0, 0, 1, 2, 77);
         CHECKS.refusedFor("26 k below 0", Checks.INDEX, k -> x.drawn(0, k), -1, LEAST);
         CHECKS.row("26 by numbers, NONE behind the last", new int[] {0, 1, NONE, NONE}, k -> x.drawn(0, k));
@@ -299,7 +300,7 @@ public final class SampleEdgeTest {
     // ---- 27: chance
 
     private static void chanceTakesSamplesAndUnits() {
-        CensusOffice x = office(1, 1);
+        CensusOffice x = Checks.strata(1, 1);
         x.sample(0, 0, 0, 1, 1, 0);
         x.sample(0, 0, 0, 1, 2, 0);
         CHECKS.refusedFor("27 no such sample", Checks.INDEX, s -> x.chance(s, 0, true), -1, 2, LEAST, MOST);
@@ -311,7 +312,7 @@ public final class SampleEdgeTest {
 
     private static void chanceInLowestTerms() {
         int[] strata = new int[100];
-        CensusOffice x = office(strata);
+        CensusOffice x = Checks.strata(strata);
         int[][] terms = {{1, 1, 100}, {99, 99, 100}, {50, 1, 2}, {100, 1, 1}, {0, 0, 1}, {64, 16, 25}, {75, 3, 4}, {97, 97, 100}};
         for (int k = 0; k < terms.length; k++) {
             int sample = k;
@@ -325,7 +326,7 @@ public final class SampleEdgeTest {
     }
 
     private static void chanceOfOthers() {
-        CensusOffice x = office(1, 1, 1);
+        CensusOffice x = Checks.strata(1, 1, 1);
         x.unit();
         x.merge(2, 1);
         x.sample(0, 0, 0, 1, 1, 0);
@@ -338,7 +339,7 @@ public final class SampleEdgeTest {
     // ---- 28: overlap
 
     private static void overlapTakesSamples() {
-        CensusOffice x = office(1, 1);
+        CensusOffice x = Checks.strata(1, 1);
         x.sample(0, 0, 0, 1, 1, 77);
         x.sample(0, 0, 0, 1, 2, 77);
         CHECKS.refusedFor("28 no such a", Checks.INDEX, s -> x.overlap(s, 0), -1, 2, LEAST, MOST);
@@ -348,7 +349,7 @@ public final class SampleEdgeTest {
     }
 
     private static void overlapOfNoneAndAll() {
-        CensusOffice x = office(1, 1, 1, 1);
+        CensusOffice x = Checks.strata(1, 1, 1, 1);
         x.sample(0, 0, 0, 1, 0, 77);
         x.sample(0, 0, 0, 1, 4, 77);
         CHECKS.due("28 none with itself", 0, () -> x.overlap(0, 0));

@@ -24,17 +24,6 @@ public final class SampleTest {
         return h ^ (h >>> 16);
     }
 
-    /** Units with field 0 at 0, and their strata in field 1. */
-    private static CensusOffice office(int... strata) {
-        CensusOffice x = new CensusOffice();
-        for (int unit = 0; unit < strata.length; unit++) {
-            x.unit();
-            x.tell(unit, 0, 0, 0);
-            x.tell(unit, 1, 0, strata[unit]);
-        }
-        return x;
-    }
-
     private static void frames() {
         CensusOffice x = new CensusOffice();
         for (int k = 0; k < 7; k++) {
@@ -70,7 +59,7 @@ public final class SampleTest {
     }
 
     private static void allotments() {
-        CensusOffice x = office(7, 7, 7, 7, 7, -3, -3, -3, 0, 0);
+        CensusOffice x = Checks.strata(7, 7, 7, 7, 7, -3, -3, -3, 0, 0);
         x.sample(0, 0, 0, 1, 4, 99);
         int[] above = {2, 2, 2, 2, 2, 1, 1, 1, 1, 1};
         int[] below = {5, 5, 5, 5, 5, 3, 3, 3, 2, 2};
@@ -80,7 +69,7 @@ public final class SampleTest {
             CHECKS.due("27 below " + k, below[k], () -> x.chance(0, unit, true));
         }
         CHECKS.due("26 four units, the fifth", NONE, () -> x.drawn(0, 4));
-        CensusOffice y = office(1, 1, 1, 1, 2, 2);
+        CensusOffice y = Checks.strata(1, 1, 1, 1, 2, 2);
         y.sample(0, 0, 0, 1, 3, 5);
         CHECKS.due("27 lowest terms, above", 1, () -> y.chance(0, 0, false));
         CHECKS.due("27 lowest terms, below", 2, () -> y.chance(0, 0, true));
@@ -90,7 +79,7 @@ public final class SampleTest {
     }
 
     private static void restsOfTheSame() {
-        CensusOffice x = office(5, 5, 2, 2, 9, 9);
+        CensusOffice x = Checks.strata(5, 5, 2, 2, 9, 9);
         x.sample(0, 0, 0, 1, 1, 3);
         CHECKS.due("25 the lesser stratum first", 1, () -> x.chance(0, 2, false));
         CHECKS.due("27 by 2", 2, () -> x.chance(0, 2, true));
@@ -98,7 +87,7 @@ public final class SampleTest {
         x.sample(0, 0, 0, 1, 2, 3);
         CHECKS.due("25 then 5", 1, () -> x.chance(1, 0, false));
         CHECKS.due("25 not 9", 0, () -> x.chance(1, 4, false));
-        CensusOffice y = office(1, 2, 2, 2);
+        CensusOffice y = Checks.strata(1, 2, 2, 2);
         y.sample(0, 0, 0, 1, 1, 3);
         CHECKS.due("25 the greatest rest", 0, () -> y.chance(0, 0, false));
         CHECKS.due("27 of three", 3, () -> y.chance(0, 1, true));
@@ -107,7 +96,7 @@ public final class SampleTest {
     private static void keys() {
         int[] strata = new int[30];
         for (int seed = -3; seed <= 3; seed++) {
-            CensusOffice x = office(strata);
+            CensusOffice x = Checks.strata(strata);
             int used = seed * 0x12345678;
             x.sample(0, 0, 0, 1, 11, used);
             int seen = 0;
@@ -132,7 +121,7 @@ public final class SampleTest {
         int[] seeds = {113413, 161289, 329303, 363982, 410861};
         int[] drawn = {0, 0, 0, 1, 0};
         for (int k = 0; k < seeds.length; k++) {
-            CensusOffice x = office(1, 1);
+            CensusOffice x = Checks.strata(1, 1);
             x.sample(0, 0, 0, 1, 1, seeds[k]);
             CHECKS.due("25 seed " + seeds[k], drawn[k], () -> x.drawn(0, 0));
         }
@@ -143,7 +132,7 @@ public final class SampleTest {
         for (int k = 0; k < 100; k++) {
             strata[k] = k % 50;
         }
-        CensusOffice x = office(strata);
+        CensusOffice x = Checks.strata(strata);
         x.sample(0, 0, 0, 1, 50, 8);
         CHECKS.due("26 the last of fifty", CensusOffice.NONE, () -> x.drawn(0, 50));
         CHECKS.due("27 one of two", 2, () -> x.chance(0, 99, true));
@@ -153,7 +142,7 @@ public final class SampleTest {
     }
 
     private static void refusals() {
-        CensusOffice x = office(1, 1);
+        CensusOffice x = Checks.strata(1, 1);
         CHECKS.refused("25 f", Checks.INDEX, () -> x.sample(6, 0, 0, 1, -1, 0));
         CHECKS.refused("25 f below", Checks.INDEX, () -> x.sample(-1, 0, 0, 1, 0, 0));
         CHECKS.refused("25 g", Checks.INDEX, () -> x.sample(0, 0, 0, 6, 9, 0));
@@ -179,7 +168,7 @@ public final class SampleTest {
     }
 
     private static void laterUnits() {
-        CensusOffice x = office(1, 1);
+        CensusOffice x = Checks.strata(1, 1);
         x.sample(0, 0, 0, 1, 2, 0);
         x.unit();
         CHECKS.due("27 later, above", 0, () -> x.chance(0, 2, false));
@@ -191,7 +180,7 @@ public final class SampleTest {
     }
 
     private static void overlaps() {
-        CensusOffice x = office(1, 1, 1, 2, 2, 2);
+        CensusOffice x = Checks.strata(1, 1, 1, 2, 2, 2);
         x.sample(0, 0, 0, 1, 6, 0);
         x.sample(0, 0, 0, 1, 2, 4);
         x.sample(0, 0, 0, 1, 0, 4);

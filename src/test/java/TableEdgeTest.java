@@ -637,6 +637,9 @@ public final class TableEdgeTest {
         CensusOffice z = table(4, 1, 2, 3, 4, 5, 6, 7, 8, 9, 10, 11, 12);
         CHECKS.due("34 five of twelve", 5, () -> z.round(0, 7));
         rounded("30 to 7", z, 4, 0, 0, 0, 0, 0, 7, 7, 14, 7, 7, 14, 28, 14, 7, 14, 35, 21, 21, 35, 77);
+        CensusOffice s = table(2, 1, 2, 2, 3, 3, 1);
+        CHECKS.due("34 a column of 3 and the whole of 12 stay so", 2, () -> s.round(0, 3));
+        rounded("30 to 3", s, 4, 0, 3, 0, 3, 3, 3, 3, 9, 3, 6, 3, 12);
     }
 
     private static void roundedFromTheSums() {
